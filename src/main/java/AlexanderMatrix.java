@@ -818,7 +818,7 @@ public final class AlexanderMatrix {
 
         /** Leaves a degree that may be too high. */
         private void addShifted(Polynomial other, int shift, long factor) {
-            if (factor == 0 || other.isZero()) {
+            if (factor == 0 || other.degree < 0) {
                 return;
             }
             int first = shift < 0 ? -shift : 0;

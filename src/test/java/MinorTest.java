@@ -4,6 +4,7 @@ public final class MinorTest {
 
     public static void main(String[] args) {
         trefoil();
+        figureEight();
         orderNought();
         moreArcsThanCrossings();
         noneSuch();
@@ -24,6 +25,15 @@ public final class MinorTest {
         CHECKS.minor(x, 2, 1, -1, 1, -1);
         CHECKS.minor(x, 2, 2, 1, -1, 1);
         CHECKS.minor(x, -1, 0);
+    }
+
+    /** By hand: the rows (0, 1-t, t), (1-t, t, 0), (-1, t, 1-t), with nothing to begin from at the first place. */
+    private static void figureEight() {
+        int[][] c = Diagrams.braid(3, 1, -2, 1, -2);
+        AlexanderMatrix x = Diagrams.of(new int[][] {c[3], c[0], c[1], c[2]}, 0);
+        CHECKS.row(x, 0, 0, 0, 1, 0, -1);
+        CHECKS.row(x, 0, 1, 0, -1, 1, 0);
+        CHECKS.minor(x, 3, 3, -1, 3, -1);
     }
 
     private static void orderNought() {
@@ -54,6 +64,7 @@ public final class MinorTest {
         }
         CHECKS.minor(x, 0, -1);
         CHECKS.minor(Diagrams.of(new int[0][], 1), -1, 1);
+        CHECKS.minor(Diagrams.of(new int[0][], 1), -2, 0);
         CHECKS.minor(Diagrams.of(new int[0][], 1), -1, -1);
     }
 
