@@ -1,8 +1,6 @@
 /** Promise 9: polynomials that stand in the tables of knots and links. */
 public final class AlexanderTest {
     private static final Checks CHECKS = new Checks("AlexanderTest");
-    /** Two strands that are twisted twice and run against one another. */
-    private static final int[][] SOLOMON = {{1, 4, 2, 1, 5}, {1, 2, 4, 3, 7}, {1, 8, 6, 5, 1}, {1, 6, 8, 7, 3}};
 
     public static void main(String[] args) {
         noneOrUnknotted();
@@ -46,7 +44,7 @@ public final class AlexanderTest {
     private static void links() {
         closure("Hopf's link", Diagrams.braid(2, 1, 1), 1, -1);
         closure("Solomon's link", Diagrams.braid(2, 1, 1, 1, 1), 1, -1, 1, -1);
-        closure("Solomon's link, turned", SOLOMON, 2, -2);
+        closure("Solomon's link, turned", Diagrams.turned(Diagrams.braid(2, 1, 1, 1, 1), 1), 2, -2);
         closure("Borromean rings", Diagrams.braid(3, Diagrams.power(3, 1, -2)), 1, -4, 6, -4, 1);
         closure("Whitehead's link", Diagrams.braid(3, 1, 1, -2, 1, -2), 1, -3, 3, -1);
     }

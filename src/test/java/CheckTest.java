@@ -1,8 +1,5 @@
 /** Promise 3. */
 public final class CheckTest {
-    private static final int[][] NO_SPHERE = {{1, 1, 2, 1, 2}};
-    private static final int[][] NEGATIVE_KINK = {{-1, 1, 2, 2, 1}};
-
     private final Checks checks = new Checks("CheckTest");
 
     public static void main(String[] args) {
@@ -25,7 +22,7 @@ public final class CheckTest {
     private void rules() {
         rule(0, new int[0][]);
         rule(0, Diagrams.KINK);
-        rule(0, NEGATIVE_KINK);
+        rule(0, Diagrams.NEGATIVE_KINK);
         rule(0, Diagrams.TREFOIL);
         rule(0, Diagrams.TWO_APART);
         rule(0, Diagrams.braid(3, Diagrams.power(6, 1, -2)));
@@ -37,7 +34,7 @@ public final class CheckTest {
         rule(2, new int[][] {{-1, 1, 1, 2, 2}});
         rule(2, new int[][] {{1, 4, 1, 3, 2}, {1, 2, 3, 1, 4}});
         rule(2, new int[][] {{1, 1, 2, 2, 1}});
-        rule(3, NO_SPHERE);
+        rule(3, Diagrams.NO_SPHERE);
         rule(3, new int[][] {{1, 1, 3, 2, 4}, {1, 2, 4, 1, 3}});
         rule(3, new int[][] {{1, 1, 1, 2, 2}, {1, 5, 6, 5, 6}});
         rule(3, new int[][] {{1, 5, 6, 5, 6}, {1, 1, 1, 2, 2}, {-1, 3, 4, 4, 3}});
@@ -63,7 +60,7 @@ public final class CheckTest {
 
     private void leavesTheDiagram() {
         AlexanderMatrix x = Diagrams.of(Diagrams.TREFOIL, 0);
-        checks.due("check(7) of no sphere", Diagrams.load(x, NO_SPHERE, 7), 3);
+        checks.due("check(7) of no sphere", Diagrams.load(x, Diagrams.NO_SPHERE, 7), 3);
         checks.due("many(1)", x.many(1), 0);
         checks.due("many(6)", x.many(6), 0);
         checks.alexander("the trefoil that stays", x, 1, -1, 1);

@@ -3,16 +3,35 @@ final class Checks {
     private final String test;
     private int asked = 0;
     private int wrong = 0;
+    private int sentences = 0;
+    private int askedBefore = 0;
+    private String sentence = "";
 
     Checks(String test) {
         this.test = test;
+    }
+
+    /** What follows tests this sentence of the document; a sentence that nothing follows is a fault. */
+    void sentence(String words) {
+        closeSentence();
+        sentence = words;
+        sentences++;
+        askedBefore = asked;
+    }
+
+    private void closeSentence() {
+        if (!sentence.isEmpty() && asked == askedBefore) {
+            wrong++;
+            System.out.println(test + ": nothing was asked about \"" + sentence + "\"");
+        }
     }
 
     void due(String call, long got, long want) {
         asked++;
         if (got != want) {
             wrong++;
-            System.out.println(test + ": " + call + " answered " + got + ", due is " + want);
+            String about = sentence.isEmpty() ? "" : " (" + sentence + ")";
+            System.out.println(test + ": " + call + " answered " + got + ", due is " + want + about);
         }
     }
 
@@ -42,7 +61,9 @@ final class Checks {
     }
 
     void end() {
-        System.out.println(test + ": " + asked + " answers, " + wrong + " of them not as due");
+        closeSentence();
+        String about = sentences == 0 ? "" : " to " + sentences + " sentences of the document";
+        System.out.println(test + ": " + asked + " answers" + about + ", " + wrong + " of them not as due");
         if (asked == 0 || wrong != 0) {
             System.exit(1);
         }

@@ -1,5 +1,7 @@
 import java.util.ArrayList;
+import java.util.HashSet;
 import java.util.List;
+import java.util.Set;
 
 /** Diagrams for the tests: a crossing is its sign and its four labels. */
 final class Diagrams {
@@ -7,6 +9,10 @@ final class Diagrams {
     static final int[][] KINK = {{1, 1, 1, 2, 2}};
     /** One component lies wholly above the other one. */
     static final int[][] TWO_APART = {{1, 1, 4, 2, 3}, {-1, 2, 4, 1, 3}};
+    static final int[][] NEGATIVE_KINK = {{-1, 1, 2, 2, 1}};
+    /** The third rule is broken, and it alone. */
+    static final int[][] NO_SPHERE = {{1, 1, 2, 1, 2}};
+    static final int[][] NOTHING = {};
 
     private Diagrams() {
     }
@@ -53,6 +59,65 @@ final class Diagrams {
             whole[i] = word[i % word.length];
         }
         return whole;
+    }
+
+    /** One behind the other, with labels that are apart. */
+    static int[][] beside(int[][]... parts) {
+        List<int[]> crossings = new ArrayList<>();
+        int base = 0;
+        for (int[][] part : parts) {
+            int greatest = base;
+            for (int[] c : part) {
+                int[] moved = {c[0], c[1] + base, c[2] + base, c[3] + base, c[4] + base};
+                crossings.add(moved);
+                greatest = Math.max(greatest, Math.max(Math.max(moved[1], moved[2]), Math.max(moved[3], moved[4])));
+            }
+            base = greatest;
+        }
+        return crossings.toArray(new int[0][]);
+    }
+
+    /** 12 crossings with 18 arcs: a closed arc has two crossings at least that it goes over. */
+    static int[][] mostArcs() {
+        return beside(TWO_APART, TWO_APART, TWO_APART, TWO_APART, TWO_APART, TWO_APART);
+    }
+
+    static int[][] renamed(int[][] crossings, int... names) {
+        int[][] then = new int[crossings.length][];
+        for (int k = 0; k < crossings.length; k++) {
+            int[] c = crossings[k];
+            then[k] = new int[] {c[0], names[c[1]], names[c[2]], names[c[3]], names[c[4]]};
+        }
+        return then;
+    }
+
+    /** The component that an edge is on runs the other way. */
+    static int[][] turned(int[][] crossings, int label) {
+        Set<Integer> component = new HashSet<>();
+        component.add(label);
+        for (int i = 0; i < 2 * crossings.length; i++) {
+            for (int[] c : crossings) {
+                for (int q = 1; q <= 4; q++) {
+                    if (component.contains(c[q])) {
+                        component.add(c[q <= 2 ? q + 2 : q - 2]);
+                    }
+                }
+            }
+        }
+        int[][] then = new int[crossings.length][];
+        for (int k = 0; k < crossings.length; k++) {
+            int[] c = crossings[k];
+            boolean lower = component.contains(c[1]);
+            int sign = lower == component.contains(c[2]) ? c[0] : -c[0];
+            then[k] = lower ? new int[] {sign, c[3], c[4], c[1], c[2]} : new int[] {sign, c[1], c[2], c[3], c[4]};
+        }
+        return then;
+    }
+
+    static AlexanderMatrix ofAndPutIn(int[][] crossings, int circles, int[][] more) {
+        AlexanderMatrix x = of(crossings, circles);
+        putIn(x, more);
+        return x;
     }
 
     static void putIn(AlexanderMatrix x, int[][] crossings) {
