@@ -12,6 +12,8 @@ public final class CheckBoundaryTest {
         fromNowOn();
         CHECKS.sentence("otherwise the first of (1), (2), (3) that is not so");
         theFirst();
+        CHECKS.sentence("The crossings that were put in: with an object that has checked others before");
+        afterOthers();
         CHECKS.sentence("(the diagram stays)");
         theDiagramStays();
         CHECKS.sentence("when circles is not 0 .. 9");
@@ -68,6 +70,24 @@ public final class CheckBoundaryTest {
             }
         }
         broken(0, Diagrams.KINK, Diagrams.TREFOIL, Diagrams.NEGATIVE_KINK);
+    }
+
+    private static void afterOthers() {
+        int[][] chain = Diagrams.braid(5, 1, 2, 3, 4);
+        int[][][] rows = {
+            Diagrams.NOTHING, Diagrams.KINK, Diagrams.NEGATIVE_KINK, BROKEN[0], BROKEN[1], BROKEN[2], Diagrams.TREFOIL,
+            chain, Diagrams.inOrder(chain, 0, 2, 1, 3), Diagrams.inOrder(chain, 3, 1, 2, 0),
+            Diagrams.beside(Diagrams.KINK, Diagrams.NEGATIVE_KINK, Diagrams.KINK),
+            Diagrams.beside(Diagrams.NEGATIVE_KINK, BROKEN[2]), Diagrams.braid(2, Diagrams.power(12, 1))};
+        int[] answers = {0, 0, 0, 1, 2, 3, 0, 0, 0, 0, 0, 3, 0};
+        for (int i = 0; i < rows.length; i++) {
+            for (int j = 0; j < rows.length; j++) {
+                AlexanderMatrix x = new AlexanderMatrix();
+                CHECKS.due("row " + i, Diagrams.load(x, rows[i], 0), answers[i]);
+                CHECKS.due("row " + j + " after row " + i, Diagrams.load(x, rows[j], 0), answers[j]);
+                CHECKS.due("row " + i + " again", Diagrams.load(x, rows[i], 0), answers[i]);
+            }
+        }
     }
 
     /** Three answers of rule n on a diagram that has its own circles, and the same diagram after them. */

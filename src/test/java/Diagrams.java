@@ -91,6 +91,25 @@ final class Diagrams {
         return then;
     }
 
+    static List<int[]> ordersOfFour() {
+        List<int[]> orders = new ArrayList<>();
+        for (int code = 0; code < 256; code++) {
+            int[] order = {code & 3, code >> 2 & 3, code >> 4 & 3, code >> 6 & 3};
+            if ((1 << order[0] | 1 << order[1] | 1 << order[2] | 1 << order[3]) == 15) {
+                orders.add(order);
+            }
+        }
+        return orders;
+    }
+
+    static int[][] inOrder(int[][] crossings, int... order) {
+        int[][] then = new int[order.length][];
+        for (int k = 0; k < order.length; k++) {
+            then[k] = crossings[order[k]];
+        }
+        return then;
+    }
+
     /** The component that an edge is on runs the other way. */
     static int[][] turned(int[][] crossings, int label) {
         Set<Integer> component = new HashSet<>();

@@ -11,6 +11,8 @@ public final class TermsBoundaryTest {
         inAndOut();
         CHECKS.sentence("(3) every PIECE lies on a sphere: it has two FACES more than crossings");
         faces();
+        CHECKS.sentence("PIECE - crossings that hang together by edges -, in whatever order they were put in");
+        pieces();
         CHECKS.sentence("the next one leaves by the place q - 1 (modulo 4) of that crossing");
         turning();
         CHECKS.sentence("There are CIRCLES besides, components without crossings: a count");
@@ -108,6 +110,21 @@ public final class TermsBoundaryTest {
         }
         twelveKinks[11] = new int[] {1, 98, 99, 98, 99};
         rule(3, twelveKinks);
+    }
+
+    /** A chain of four, where the first one hangs together with the last one by the others alone. */
+    private static void pieces() {
+        int[][] chain = Diagrams.braid(5, 1, 2, 3, 4);
+        int[][] ring = twisted(4);
+        for (int[] order : Diagrams.ordersOfFour()) {
+            int[][] shuffled = Diagrams.inOrder(chain, order);
+            rule(0, shuffled);
+            rule(0, Diagrams.beside(shuffled, Diagrams.KINK, shuffled));
+            rule(3, Diagrams.inOrder(ring, order));
+            rule(3, Diagrams.beside(shuffled, Diagrams.inOrder(ring, order)));
+            int[][] three = Diagrams.beside(Diagrams.TWO_APART, Diagrams.KINK, Diagrams.NEGATIVE_KINK);
+            rule(0, Diagrams.inOrder(three, order));
+        }
     }
 
     /** The same places turned: the edges are the same ones, yet the faces are others. */
