@@ -5,6 +5,7 @@ public final class MinorBoundaryTest {
     public static void main(String[] args) {
         CHECKS.sentence("all rows but the crossing's, and all columns but the arc's");
         firstAndLast();
+        exchanged();
         CHECKS.sentence("(crossing -1: of all rows)");
         allRows();
         CHECKS.sentence("0 when there are not as many rows as columns then");
@@ -41,6 +42,12 @@ public final class MinorBoundaryTest {
         }
     }
 
+    /** The rows (0, 1-t, t), (1-t, t, 0), (-1, t, 1-t) are left: the first place of them is 0, so two are exchanged. */
+    private static void exchanged() {
+        int[][] row = Diagrams.inOrder(Diagrams.braid(3, 1, -2, 1, -2), 3, 0, 1, 2);
+        CHECKS.minor(Diagrams.of(row, 0), 3, 3, -1, 3, -1);
+    }
+
     /** Rows and columns are as many then only if one arc is closed or a circle: always 0 but for order 0. */
     private static void allRows() {
         CHECKS.minor(Diagrams.of(Diagrams.NOTHING, 1), -1, 0, 1);
@@ -57,6 +64,44 @@ public final class MinorBoundaryTest {
         CHECKS.minor(Diagrams.of(Diagrams.TWO_APART, 0), -1, 2);
         CHECKS.minor(Diagrams.of(Diagrams.braid(2, Diagrams.power(6, 1, -1)), 0), -1, 12);
         CHECKS.minor(Diagrams.of(Diagrams.braid(2, Diagrams.power(12, 1)), 1), -1, 12);
+        afterTheGreatestOrder(Diagrams.braid(2, Diagrams.power(12, 1)), 1);
+        afterTheGreatestOrder(Diagrams.braid(2, Diagrams.power(6, 1, -1)), 0);
+        noughtAfterGreaterOnes();
+    }
+
+    /** What 12 rows and 12 columns leave behind does not spoil the next minors. */
+    private static void afterTheGreatestOrder(int[][] crossings, int circles) {
+        AlexanderMatrix x = Diagrams.of(crossings, circles);
+        for (int arc = 0; arc <= 13; arc++) {
+            CHECKS.due("minor(-1, " + arc + ", 0)", x.minor(-1, arc, 0), 0);
+            CHECKS.due("minor(-1, " + arc + ", 12)", x.minor(-1, arc, 12), 0);
+        }
+        Diagrams.load(x, Diagrams.TREFOIL, 0);
+        CHECKS.minor(x, 0, 0, 1, -1, 1);
+        CHECKS.minor(x, 2, 1, -1, 1, -1);
+        CHECKS.alexander("trefoil", x, 1, -1, 1);
+        x.check(1);
+        CHECKS.minor(x, -1, 0, 1);
+    }
+
+    /** Rows that hang on one another, behind a greater minor of the same object: 0 again, not what was left of it. */
+    private static void noughtAfterGreaterOnes() {
+        int[][][] greater = {
+            Diagrams.braid(2, Diagrams.power(12, 1)), Diagrams.braid(3, Diagrams.power(6, 1, -2)),
+            Diagrams.braid(3, Diagrams.power(6, -1, 2)), Diagrams.braid(4, Diagrams.power(4, 1, -2, 3))};
+        for (int[][] crossings : greater) {
+            for (int n = 1; n <= 9; n++) {
+                AlexanderMatrix x = Diagrams.of(crossings, 0);
+                CHECKS.due("a minor of order 11", x.minor(n, 11 - n, 12), 0);
+                Diagrams.load(x, Diagrams.braid(2, Diagrams.power(n, 1)), 1);
+                CHECKS.minor(x, -1, 0);
+                CHECKS.minor(x, -1, n);
+                Diagrams.load(x, Diagrams.beside(Diagrams.braid(2, Diagrams.power(n, -1)), Diagrams.KINK), 0);
+                CHECKS.minor(x, 0, 0);
+                CHECKS.minor(x, n, n);
+                CHECKS.alexander("two pieces", x);
+            }
+        }
     }
 
     /** Where one more or one less would do. */
