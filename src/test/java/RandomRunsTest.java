@@ -43,9 +43,12 @@ public final class RandomRunsTest {
 
     private void putIn(int most) {
         List<int[]> rows = new ArrayList<>();
-        int kind = random.nextInt(4);
+        int kind = random.nextInt(5);
         if (kind == 0) {
             matched(rows, 1 + random.nextInt(4));
+        } else if (kind == 4) {
+            braid(rows, 1 + random.nextInt(most));
+            rows = new ArrayList<>(List.of(Moves.moved(rows.toArray(new int[0][]), most, random)));
         } else {
             for (int part = kind == 3 ? 2 : 1; part > 0; part--) {
                 braid(rows, random.nextInt(most / (kind == 3 ? 2 : 1) + 1));
